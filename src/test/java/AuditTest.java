@@ -6,11 +6,13 @@ public final class AuditTest {
     public static void main(String[] args) {
         allowed();
         allowedLifted();
+        allowedLeastSeal();
         allowedWrong();
         why();
         whyOutermost();
         whyWrong();
         count();
+        countFirstRule();
         countTriples();
         countWrong();
         leastRank();
@@ -68,6 +70,18 @@ public final class AuditTest {
         bothWays(x, 0, 0, 0, 1);
         // A waiver alone permits nothing.
         bothWays(Check.charterOf("0w**9"), 0, 0, 9, 0);
+    }
+
+    private static void allowedLeastSeal() {
+        CHECK.part("promise 14, the seal 1");
+        LayeredCharters x = Check.charterOf("4b**1;0p**");
+        bothWays(x, 0, 0, 0, 0);
+        bothWays(x, 0, 0, 1, 1);
+        x.add(4, 2, 0, 6, 1);
+        bothWays(x, 0, 0, 0, 1);
+        bothWays(x, 1, 0, 0, 0);
+        CHECK.is("leastRank(1, 0)", x.leastRank(1, 0), 1);
+        CHECK.is("leastRank(0, 0)", x.leastRank(0, 0), 0);
     }
 
     private static void allowedWrong() {
@@ -153,6 +167,16 @@ public final class AuditTest {
         Check.write(x, "0p**;12");
         int[] want = {6, 2, 3, 1, 2, 7, 12, 2, 1, 0, 1, 2, 0, 0, 3, 7, 6};
         for (int what = 0; what < want.length; what++) CHECK.is("count(" + what + ")", x.count(what), want[what]);
+    }
+
+    private static void countFirstRule() {
+        CHECK.part("promise 16, the rule 0");
+        LayeredCharters x = Check.charterOf("3b*14;0p**;1w019");
+        int[] want = {3, 1, 1, 1, 0, 2, 300 - 4 * 4};
+        for (int what = 0; what < want.length; what++) CHECK.is("count(" + what + ")", x.count(what), want[what]);
+        x = Check.charterOf("0w**9;0p**;1w019");
+        int[] idle = {3, 1, 0, 2, 2, 0, 300};
+        for (int what = 0; what < idle.length; what++) CHECK.is("count(" + what + ")", x.count(what), idle[what]);
     }
 
     private static void countTriples() {

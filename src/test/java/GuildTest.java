@@ -7,6 +7,7 @@ public final class GuildTest {
         join();
         joinWrong();
         leave();
+        leaveOf10();
         rank();
         act();
         actCountsForLayers();
@@ -65,15 +66,16 @@ public final class GuildTest {
         x.act(1, 0);
         x.act(1, 1);
         x.act(2, 0);
+        x.act(2, 1);
         CHECK.refused(x, Check.view(x), "leave(3)", x.leave(3), Check.NO_SUCH);
         for (int far : FAR) CHECK.refused(x, Check.view(x), "leave(" + far + ")", x.leave(far), Check.NO_SUCH);
         CHECK.is("leave(1)", x.leave(1), 2);
         CHECK.is("count(7)", x.count(7), 2);
         CHECK.isText("member 0", fiveOf(x, 0), "0 1 63 1 0");
-        CHECK.isText("member 1", fiveOf(x, 1), "2 3 0 0 1");
+        CHECK.isText("member 1", fiveOf(x, 1), "2 3 0 0 2");
         CHECK.is("member(2, 0)", x.member(2, 0), Check.NO_SUCH);
         CHECK.is("count(8), also of who left", x.count(8), 3);
-        CHECK.is("count(14), also of who left", x.count(14), 2);
+        CHECK.is("count(14), also of who left", x.count(14), 3);
         CHECK.is("leave(1)", x.leave(1), 0);
         CHECK.is("leave(0)", x.leave(0), 1);
         CHECK.is("leave(0)", x.leave(0), Check.NO_SUCH);
@@ -84,6 +86,38 @@ public final class GuildTest {
         x.undo();
         CHECK.is("undo() of the first that left", x.undo(), 2);
         CHECK.isText("member 1", fiveOf(x, 1), "1 2 1 2 1");
+    }
+
+    private static void leaveOf10() {
+        CHECK.part("promise 9, 10 members");
+        LayeredCharters x = Check.charterOf("0p*0");
+        for (int i = 0; i < 10; i++) x.join(i % 5, i);
+        for (int i = 0; i < 10; i++) {
+            for (int times = 0; times <= i; times++) x.act(i, 0);
+            for (int times = 0; times <= 2 * i; times++) x.act(i, 1);
+        }
+        for (int gone = 0; gone < 3; gone++) CHECK.is("leave(4)", x.leave(4), 5 + gone);
+        for (int member = 0; member < 7; member++) {
+            int was = member < 4 ? member : member + 3;
+            String want = was % 5 + " " + was + " 1 " + (was + 1) + " " + (2 * was + 1);
+            CHECK.isText("member " + member, fiveOf(x, member), want);
+        }
+        CHECK.is("undo()", x.undo(), 5);
+        CHECK.isText("member 4", fiveOf(x, 4), "1 6 1 7 13");
+        CHECK.is("leave(0)", x.leave(0), 1);
+        for (int i = 7; i < 10; i++) {
+            CHECK.is("join(2, 2)", x.join(2, 2), i);
+            CHECK.isText("member " + i, fiveOf(x, i), "2 2 1 0 0");
+        }
+        CHECK.is("leave(9)", x.leave(9), 0);
+        x = Check.charterOf("0p*0");
+        for (int i = 0; i < 10; i++) x.join(0, 0);
+        x.act(9, 0);
+        x.act(9, 1);
+        x.leave(0);
+        CHECK.is("join(1, 1)", x.join(1, 1), 9);
+        CHECK.isText("member 8", fiveOf(x, 8), "0 0 1 1 1");
+        CHECK.isText("member 9", fiveOf(x, 9), "1 1 1 0 0");
     }
 
     private static void rank() {

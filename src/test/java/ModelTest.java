@@ -46,7 +46,29 @@ public final class ModelTest {
             else if (dice < 80) ask(x, model);
             else if (dice < 90) text(x, model);
             else keep(x, model);
+            if (call % 60 == 0) everything(x, model);
         }
+        everything(x, model);
+    }
+
+    private static void everything(LayeredCharters x, Model model) {
+        for (int what = 0; what <= 16; what++) CHECK.is("count(" + what + ")", x.count(what), model.count(what));
+        for (int i = 0; i < 600; i++) {
+            int craft = i / 120;
+            int deed = i / 20 % 6;
+            int rank = i / 2 % 10;
+            String call = "(" + craft + ", " + deed + ", " + rank + ", " + i % 2 + ")";
+            CHECK.is("allowed" + call, x.allowed(craft, deed, rank, i % 2), model.allowed(craft, deed, rank, i % 2));
+            CHECK.is("why" + call, x.why(craft, deed, rank), model.why(craft, deed, rank));
+        }
+        for (int i = 0; i < 24 * 8; i++) {
+            CHECK.is("rule(" + i / 8 + ", " + i % 8 + ")", x.rule(i / 8, i % 8), model.rule(i / 8, i % 8));
+        }
+        for (int i = 0; i < 10 * 5; i++) {
+            CHECK.is("member(" + i / 5 + ", " + i % 5 + ")", x.member(i / 5, i % 5), model.member(i / 5, i % 5));
+        }
+        for (int seal = 1; seal <= 9; seal++) CHECK.is("bestWaiver(" + seal + ")", x.bestWaiver(seal), model.bestWaiver(seal));
+        CHECK.is("worstBan()", x.worstBan(), model.worstBan());
     }
 
     private void build(LayeredCharters x, Model model, int sort) {
