@@ -1,9 +1,15 @@
-/** All promises: runs of 512 mixed calls, each of whose answers has to be the model's. The runs are the same each time. */
+/**
+ * All promises: runs of mixed calls, each of whose answers has to be the model's. The runs are the same each time, and no
+ * object is asked more often than 512 times: what there is to be asked at once is asked behind a run that is made anew.
+ */
 public final class ModelTest {
     private static final Check CHECK = new Check("ModelTest");
-    private static final int RUNS = 60, CALLS = 512;
+    private static final int RUNS = 100, CALLS = 512, PARTS = 4;
+    private static final int[] CALLS_AHEAD = {25, 60, 120, 210};
     private static final String SIGNS = "0123456789*;pbw";
 
+    private final LayeredCharters x = new LayeredCharters();
+    private final Model model = new Model();
     private long seed;
 
     private ModelTest(long seed) {
@@ -13,7 +19,14 @@ public final class ModelTest {
     public static void main(String[] args) {
         for (int run = 0; run < RUNS; run++) {
             CHECK.part("run " + run);
-            new ModelTest(run).run(run % 4);
+            new ModelTest(run).run(run % 4, CALLS);
+            for (int ahead : CALLS_AHEAD) {
+                for (int part = 0; part < PARTS; part++) {
+                    ModelTest again = new ModelTest(run);
+                    again.run(run % 4, ahead);
+                    again.askPart(part);
+                }
+            }
         }
         CHECK.end();
     }
@@ -32,46 +45,68 @@ public final class ModelTest {
         return least + upTo(greatest - least + 1);
     }
 
-    private void run(int sort) {
-        LayeredCharters x = new LayeredCharters();
-        Model model = new Model();
-        if (sort != 0) {
-            x.add(0, 0, 5, 6, 1);
-            model.add(0, 0, 5, 6, 1);
-        }
-        for (int call = sort == 0 ? 0 : 1; call < CALLS; call++) {
+    private void run(int sort, int calls) {
+        if (sort != 0) CHECK.is("add(0, 0, 5, 6, 1)", x.add(0, 0, 5, 6, 1), model.add(0, 0, 5, 6, 1));
+        for (int call = sort == 0 ? 0 : 1; call < calls; call++) {
             int dice = upTo(100);
-            if (dice < 30) build(x, model, sort);
-            else if (dice < 50) guild(x, model);
-            else if (dice < 80) ask(x, model);
-            else if (dice < 90) text(x, model);
-            else keep(x, model);
-            if (call % 60 == 0) everything(x, model);
+            if (dice < 30) build(sort);
+            else if (dice < 50) guild();
+            else if (dice < 80) ask();
+            else if (dice < 90) text();
+            else keep();
         }
-        everything(x, model);
     }
 
-    private static void everything(LayeredCharters x, Model model) {
-        for (int what = 0; what <= 16; what++) CHECK.is("count(" + what + ")", x.count(what), model.count(what));
-        for (int i = 0; i < 600; i++) {
-            int craft = i / 120;
-            int deed = i / 20 % 6;
-            int rank = i / 2 % 10;
-            String call = "(" + craft + ", " + deed + ", " + rank + ", " + i % 2 + ")";
-            CHECK.is("allowed" + call, x.allowed(craft, deed, rank, i % 2), model.allowed(craft, deed, rank, i % 2));
-            CHECK.is("why" + call, x.why(craft, deed, rank), model.why(craft, deed, rank));
+    /** Up to 300 calls. */
+    private void askPart(int part) {
+        if (part == 0) {
+            askAll();
+            return;
         }
-        for (int i = 0; i < 24 * 8; i++) {
-            CHECK.is("rule(" + i / 8 + ", " + i % 8 + ")", x.rule(i / 8, i % 8), model.rule(i / 8, i % 8));
+        for (int i = 0; i < 300; i++) {
+            int craft = i / 60;
+            int deed = i / 10 % 6;
+            int rank = i % 10;
+            if (part == 1) askWhy(craft, deed, rank);
+            else askAllowed(craft, deed, rank, part - 2);
         }
-        for (int i = 0; i < 10 * 5; i++) {
-            CHECK.is("member(" + i / 5 + ", " + i % 5 + ")", x.member(i / 5, i % 5), model.member(i / 5, i % 5));
-        }
-        for (int seal = 1; seal <= 9; seal++) CHECK.is("bestWaiver(" + seal + ")", x.bestWaiver(seal), model.bestWaiver(seal));
+    }
+
+    private void askAll() {
+        for (int what = 0; what <= 16; what++) askCount(what);
+        for (int i = 0; i < 24 * 8; i++) askRule(i / 8, i % 8);
+        for (int i = 0; i < 10 * 5; i++) askMember(i / 5, i % 5);
+        for (int seal = 1; seal <= 9; seal++) askBestWaiver(seal);
         CHECK.is("worstBan()", x.worstBan(), model.worstBan());
+        CHECK.is("fault()", x.fault(), model.fault());
     }
 
-    private void build(LayeredCharters x, Model model, int sort) {
+    private void askCount(int what) {
+        CHECK.is("count(" + what + ")", x.count(what), model.count(what));
+    }
+
+    private void askRule(int rule, int what) {
+        CHECK.is("rule(" + rule + ", " + what + ")", x.rule(rule, what), model.rule(rule, what));
+    }
+
+    private void askMember(int member, int what) {
+        CHECK.is("member(" + member + ", " + what + ")", x.member(member, what), model.member(member, what));
+    }
+
+    private void askAllowed(int craft, int deed, int rank, int way) {
+        String call = "allowed(" + craft + ", " + deed + ", " + rank + ", " + way + ")";
+        CHECK.is(call, x.allowed(craft, deed, rank, way), model.allowed(craft, deed, rank, way));
+    }
+
+    private void askWhy(int craft, int deed, int rank) {
+        CHECK.is("why(" + craft + ", " + deed + ", " + rank + ")", x.why(craft, deed, rank), model.why(craft, deed, rank));
+    }
+
+    private void askBestWaiver(int seal) {
+        CHECK.is("bestWaiver(" + seal + ")", x.bestWaiver(seal), model.bestWaiver(seal));
+    }
+
+    private void build(int sort) {
         int rule = near(0, Math.max(0, model.count(0) - 1));
         int dice = upTo(20);
         if (dice < 12 - 2 * (sort / 2)) {
@@ -95,7 +130,7 @@ public final class ModelTest {
         }
     }
 
-    private void guild(LayeredCharters x, Model model) {
+    private void guild() {
         int member = near(0, Math.max(0, model.count(7) - 1));
         int rank = near(0, 9);
         int dice = upTo(20);
@@ -112,50 +147,25 @@ public final class ModelTest {
         }
     }
 
-    private void ask(LayeredCharters x, Model model) {
+    private void ask() {
         int craft = near(0, 4);
         int deed = near(0, 5);
         int rank = near(0, 9);
         int rule = near(0, Math.max(0, model.count(0) - 1));
-        int what;
         switch (upTo(9)) {
-            case 0:
-                what = near(0, 7);
-                CHECK.is("rule(" + rule + ", " + what + ")", x.rule(rule, what), model.rule(rule, what));
-                break;
-            case 1:
-                int member = near(0, Math.max(0, model.count(7) - 1));
-                what = near(0, 4);
-                CHECK.is("member(" + member + ", " + what + ")", x.member(member, what), model.member(member, what));
-                break;
-            case 2:
-                int way = near(0, 1);
-                String call = "allowed(" + craft + ", " + deed + ", " + rank + ", " + way + ")";
-                CHECK.is(call, x.allowed(craft, deed, rank, way), model.allowed(craft, deed, rank, way));
-                break;
-            case 3:
-                CHECK.is("why(" + craft + ", " + deed + ", " + rank + ")", x.why(craft, deed, rank), model.why(craft, deed, rank));
-                break;
-            case 4:
-                what = near(0, 16);
-                CHECK.is("count(" + what + ")", x.count(what), model.count(what));
-                break;
-            case 5:
-                CHECK.is("leastRank(" + craft + ", " + deed + ")", x.leastRank(craft, deed), model.leastRank(craft, deed));
-                break;
-            case 6:
-                CHECK.is("ifStruck(" + rule + ")", x.ifStruck(rule), model.ifStruck(rule));
-                break;
-            case 7:
-                CHECK.is("worstBan()", x.worstBan(), model.worstBan());
-                break;
-            default:
-                int seal = near(1, 9);
-                CHECK.is("bestWaiver(" + seal + ")", x.bestWaiver(seal), model.bestWaiver(seal));
+            case 0: askRule(rule, near(0, 7)); break;
+            case 1: askMember(near(0, Math.max(0, model.count(7) - 1)), near(0, 4)); break;
+            case 2: askAllowed(craft, deed, rank, near(0, 1)); break;
+            case 3: askWhy(craft, deed, rank); break;
+            case 4: askCount(near(0, 16)); break;
+            case 5: CHECK.is("leastRank(" + craft + ", " + deed + ")", x.leastRank(craft, deed), model.leastRank(craft, deed)); break;
+            case 6: CHECK.is("ifStruck(" + rule + ")", x.ifStruck(rule), model.ifStruck(rule)); break;
+            case 7: CHECK.is("worstBan()", x.worstBan(), model.worstBan()); break;
+            default: askBestWaiver(near(1, 9));
         }
     }
 
-    private void text(LayeredCharters x, Model model) {
+    private void text() {
         int dice = upTo(10);
         if (dice < 5) {
             long characters = Check.packed(signs(model.count(15) == 0));
@@ -182,7 +192,7 @@ public final class ModelTest {
         return signs.toString();
     }
 
-    private void keep(LayeredCharters x, Model model) {
+    private void keep() {
         int slot = near(0, 1);
         int dice = upTo(10);
         if (dice < 6) CHECK.is("undo()", x.undo(), model.undo());
