@@ -40,6 +40,15 @@ final class Document {
         return between("## Terms", "The constants:");
     }
 
+    /** The lines of the public face, without those around them. */
+    List<String> face() {
+        List<String> face = new ArrayList<>();
+        for (String line : between("public final class LayeredCharters {", "\n}\n").split("\n")) {
+            if (line.startsWith("    ")) face.add(onOneLine(line));
+        }
+        return face;
+    }
+
     boolean says(String quote) {
         return onOneLine(text).contains(quote);
     }

@@ -11,14 +11,10 @@ import java.util.Set;
 /** The document's public face: its constants, constructor and methods, and nothing else that can be seen. */
 public final class FaceTest {
     private static final Check CHECK = new Check("FaceTest");
-    private static final String[] CONSTANTS = {
-        "NO_SUCH = -1", "BAD_VALUE = -2", "BAD_TEXT = -3", "TOO_MANY = -4", "NOT_POSSIBLE = -5", "NONE = -6",
-        "PERMIT = 0", "BAN = 1", "WAIVER = 2", "NOT_PERMITTED = 100"};
-    private static final String[] METHODS = {
-        "add(int,int,int,int,int)", "strike(int)", "seal(int,int)", "move(int,int)", "read()", "tidy()", "join(int,int)",
-        "leave(int)", "rank(int,int)", "act(int,int)", "rule(int,int)", "member(int,int)", "allowed(int,int,int,int)",
-        "why(int,int,int)", "count(int)", "leastRank(int,int)", "ifStruck(int)", "worstBan()", "bestWaiver(int)",
-        "put(long)", "wipe()", "fault()", "undo()", "save(int)", "restore(int)"};
+    private static final String CONSTANT = "public static final int ", CONSTRUCTOR = "public LayeredCharters();";
+    private static final String METHOD = "public int ";
+    private static final List<String> CONSTANTS = new ArrayList<>();
+    private static final List<String> METHODS = new ArrayList<>();
 
     public static void main(String[] args) throws IllegalAccessException {
         Class<?> face = LayeredCharters.class;
@@ -26,6 +22,7 @@ public final class FaceTest {
         CHECK.is("modifiers", face.getModifiers(), Modifier.PUBLIC | Modifier.FINAL);
         CHECK.isText("superclass", face.getSuperclass().getName(), "java.lang.Object");
         CHECK.is("interfaces", face.getInterfaces().length, 0);
+        readDocument();
         constants(face);
         constructor(face);
         methods(face);
@@ -34,6 +31,26 @@ public final class FaceTest {
             CHECK.is("modifiers of " + inside.getName(), seen, Modifier.STATIC);
         }
         CHECK.end();
+    }
+
+    private static void readDocument() {
+        CHECK.part("the document's face");
+        int constructors = 0;
+        for (String line : new Document().face()) {
+            String bare = line.replaceAll(";$", "");
+            if (line.startsWith(CONSTANT)) CONSTANTS.addAll(List.of(bare.substring(CONSTANT.length()).split(", ")));
+            else if (line.startsWith(METHOD)) METHODS.add(typesOnly(bare.substring(METHOD.length())));
+            else if (line.equals(CONSTRUCTOR)) constructors++;
+            else CHECK.isText("a line that is none of these", line, "");
+        }
+        CHECK.is("constants", CONSTANTS.size(), 10);
+        CHECK.is("constructors", constructors, 1);
+        CHECK.is("methods", METHODS.size(), 25);
+    }
+
+    /** A method's line, "add(int layer, int kind)", as "add(int,int)". */
+    private static String typesOnly(String line) {
+        return line.replaceAll(" \\w+(?=[,)])", "").replace(" ", "");
     }
 
     private static String sorted(List<String> names) {
@@ -51,7 +68,7 @@ public final class FaceTest {
             CHECK.isText("type of " + field, field.getType().getName(), "int");
             seen.add(field.getName() + " = " + field.getInt(null));
         }
-        CHECK.isText("all", sorted(seen), sorted(Arrays.asList(CONSTANTS)));
+        CHECK.isText("all", sorted(seen), sorted(CONSTANTS));
     }
 
     private static void constructor(Class<?> face) {
@@ -79,6 +96,6 @@ public final class FaceTest {
             for (Class<?> type : method.getParameterTypes()) types.add(type.getName());
             seen.add(method.getName() + "(" + String.join(",", types) + ")");
         }
-        CHECK.isText("all", sorted(seen), sorted(Arrays.asList(METHODS)));
+        CHECK.isText("all", sorted(seen), sorted(METHODS));
     }
 }
